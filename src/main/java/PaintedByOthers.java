@@ -40,7 +40,7 @@ public final class PaintedByOthers {
     private static final int LINES_MOST = 16;
     private static final int OPEN_MOST = 8;
     private static final int DIGITS_MOST = 4;
-    // Eight open brackets leave an or and an and waiting each, with three parts of a comparison above them.
+    // In each of eight open brackets an or and an and may wait, and above them the parts of one comparison.
     private static final int STACK_MOST = 32;
 
     private static final int FAULT_NONE = 0;
@@ -1312,8 +1312,11 @@ public final class PaintedByOthers {
 
         int potsOfChosen() {
             int sum = 0;
-            for (int c = 0; c < town.colourCount; c++) {
-                sum += isIn(c, chosen, town.wallCount) ? town.pots[c] : 0;
+            int used = 0;
+            for (int w = 0; w < town.wallCount; w++) {
+                int c = chosen[w];
+                sum += (used >> c & 1) == 0 ? town.pots[c] : 0;
+                used |= 1 << c;
             }
             return sum;
         }
@@ -1341,7 +1344,7 @@ public final class PaintedByOthers {
         private int greatestWithout(int left) {
             addUp(left);
             top = BELOW_ALL;
-            tryFrom(0, 0);
+            tryFrom(0, 0, 0);
             return top;
         }
 
@@ -1368,7 +1371,7 @@ public final class PaintedByOthers {
         }
 
         // Paintings come in their order, so that the first of several stays.
-        private void tryFrom(int wall, int value) {
+        private void tryFrom(int wall, int value, int used) {
             if (wall >= town.wallCount || wall >= trial.length) {
                 if (value > top) {
                     top = value;
@@ -1377,28 +1380,20 @@ public final class PaintedByOthers {
                 return;
             }
             for (int c = 0; c < town.colourCount; c++) {
+                int pot = (used >> c & 1) == 0 ? town.pots[c] : 0;
                 trial[wall] = c;
-                tryFrom(wall + 1, value + valueOfNext(wall, c));
+                tryFrom(wall + 1, value + worthOfNext(wall, c) - pot, used | 1 << c);
             }
         }
 
-        private int valueOfNext(int wall, int colour) {
-            int value = alone[wall * COLOURS_MOST + colour];
+        private int worthOfNext(int wall, int colour) {
+            int worth = alone[wall * COLOURS_MOST + colour];
             for (int u = 0; u < wall; u++) {
                 if (trial[u] == colour) {
-                    value += together[wall * WALLS_MOST + u];
+                    worth += together[wall * WALLS_MOST + u];
                 }
             }
-            return isIn(colour, trial, wall) ? value : value - town.pots[colour];
-        }
-
-        private static boolean isIn(int colour, int[] painting, int walls) {
-            for (int w = 0; w < walls; w++) {
-                if (painting[w] == colour) {
-                    return true;
-                }
-            }
-            return false;
+            return worth;
         }
     }
 

@@ -548,6 +548,9 @@ public final class PromisesTest {
         fault("by Most;", 1, 3);
         fault("by MOST;", 1, 3);
         fault("bymost;", 1, 0);
+        for (String letter : new String[] {"a", "z", "A", "Z"}) fault("by" + letter, 1, 0);
+        for (String none : new String[] {"@", "[", "`", "{", "/", ":", "\u00e1", "\u00ff", "\u0000", "\u00a0"}) fault("by" + none, 1, 2);
+        for (String none : new String[] {"/", ":"}) fault("by most when 1" + none, 1, none.equals("/") ? 15 : 14);
         fault("by mostwhen 1=1;", 1, 3);
         fault("by mos;", 1, 3);
         fault("by mostt;", 1, 3);
@@ -1256,6 +1259,9 @@ public final class PromisesTest {
             people(7, 6, 5);
             views(0, 1, 1, 1, 1);
             tastes(0, -9, -9, -9, -9);
+            due("tree", x.tree(5, 2, 50), 0);
+            due("tree", x.tree(0, 1, 50), 1);
+            due("years", x.years(3), 3);
             yes("deed", x.deed(0, 0, 1));
             yes("looks", x.looks(3, 50));
             fault("by most when 1/0=1;", 2, 15);
