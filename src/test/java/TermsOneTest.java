@@ -99,14 +99,48 @@ public final class TermsOneTest extends Trial {
     // Walls and people come anew with the numbers of the earlier ones: nothing may be left at those.
     private static void toldAnewForThoseWhoCome() {
         sentence("told anew: all is as at first, for those who come then, too");
-        Counted town = new Counted();
-        fullTown(town);
-        town.ofColours(4).state(0);
-        Counted fresh = new Counted();
-        faultIn(fresh);
-        fresh.ofColours(4).fed("by window;by keep;");
-        for (Counted t : new Counted[] {town, fresh}) t.walls(1, 1, 0).people(0, 5, 7).rule("").imageTaken();
-        alike(fresh, town);
+        for (int yards = 0; yards < 9; yards += 4) {
+            Counted town = new Counted();
+            fullTown(town);
+            town.ofColours(4).state(0);
+            Counted fresh = new Counted();
+            faultIn(fresh);
+            fresh.ofColours(4).fed("by window;by keep;");
+            for (Counted t : new Counted[] {town, fresh}) {
+                t.walls(1, 1, 0).people(0, 5, 7).rule("");
+                if (yards > 0) t.views(0, yards, 8, 7).views(5, 3, yards, 5).views(7, 20, 0, yards);
+                t.imageTaken();
+            }
+            alike(fresh, town);
+        }
+    }
+
+    // Beside of one and neighbours count together alone: of each the other one is told anew.
+    private static void besideToldAnew() {
+        sentence("told anew: all is as at first, BESIDE of one and NEIGHBOURS, too");
+        for (int first = 0; first < 2; first++) {
+            x = new Counted().walls(0, 0).people(0).views(0, 5, 5).neighbours(0, 1).likesBeside(0, 3).likesBeside(0, 3);
+            due("worth(0)", x.worth(0), 15);
+            x.ofColours(3).walls(0, 0).people(0).views(0, 5, 5);
+            if (first == 0) x.neighbours(0, 1);
+            else x.likesBeside(0, 3);
+            due("worth(0)", x.worth(0), 0);
+        }
+    }
+
+    private static void tastesToldAnew() {
+        sentence("told anew: all is as at first, TASTES and what is SAID, too");
+        for (int v = -9; v <= 9; v++) {
+            x = new Counted().walls(0).people(0).views(0, 5).tastes(0, v, v, v).ofColours(3).walls(1).people(0).views(0, 5).rule("by most;");
+            judged(0);
+            due("worth(0)", x.worth(0), 0);
+            yes("tell(0, 1, 2, 0)", x.tell(0, 1, 2, 0));
+            judged(0);
+            yes("tell(0, 1, 2, 1)", x.tell(0, 1, 2, 1));
+            judged(2);
+            x.says(0, -1).says(0, -1, 0, -1);
+            judged(1);
+        }
     }
 
     private static void imageOutlivesColours() {
@@ -429,6 +463,8 @@ public final class TermsOneTest extends Trial {
         howManyColours();
         toldAnew();
         toldAnewForThoseWhoCome();
+        besideToldAnew();
+        tastesToldAnew();
         imageOutlivesColours();
         potPrices();
         wallsComeByNumber();

@@ -186,6 +186,56 @@ public final class TermsThreeTest extends Trial {
         x.tastes(0, 5, 0, 6).tastes(1, 6, 0, 5);
         due("both", x.trade(), 1);
         painting(0, 0);
+        x.walls(1).views(0, 0, 1, 1).views(1, 0, 1, 1).tastes(0, 9, 0, 0).tastes(1, 0, 9, 0).neighbours(1, 2).likesBeside(0, 1).likesBeside(1, 1);
+        due("each likes one of two neighbours, and both like them alike", x.trade(), 0);
+        painting(0, 0, 1);
+    }
+
+    private static void tradesOfNeighbours() {
+        sentence("so that WORTH is greater to both p and q (by BESIDE of NEIGHBOURS)");
+        x.walls(0, 0).people(0, 1).views(0, 1, 1).views(1, 1, 1).neighbours(0, 1).likesBeside(0, -1).likesBeside(1, 0);
+        due("one has as much as before", x.trade(), 0);
+        x.likesBeside(1, -1);
+        due("not alike any more", x.trade(), 1);
+        painting(0, 1);
+        due("nothing is left", x.trade(), 0);
+        x.likesBeside(0, 1).likesBeside(1, 1);
+        due("alike again", x.trade(), 1);
+        painting(0, 0);
+        x.likesBeside(0, 5).likesBeside(1, 5).tastes(0, 0, 1).tastes(1, 0, 1);
+        due("both anew, and alike as before", x.trade(), 1);
+        painting(1, 1);
+        x.tastes(0, 0, 0, 5).tastes(1, 0, 0, 5).likesBeside(0, 5).likesBeside(1, 5).says(0, 0);
+        due("both anew, as one of them alone is worth no more", x.trade(), 1);
+        painting(2, 2);
+    }
+
+    private static void tradesBesideAThird() {
+        sentence("so that WORTH is greater to both p and q (beside a WALL that stays)");
+        x.walls(0, 0, 1).people(0, 1).views(0, 1, 1, 1).views(1, 1, 1, 1).neighbours(0, 2).neighbours(1, 2).likesBeside(0, 1).likesBeside(1, 1);
+        due("stand()", x.stand(), 2);
+        due("the second one like the third", x.trade(), 1);
+        painting(0, 1, 1);
+        due("the first one like the third", x.trade(), 1);
+        painting(1, 1, 1);
+        due("nothing is left", x.trade(), 0);
+        x.likesBeside(0, -1);
+        due("one would have more, one less", x.trade(), 0);
+        x.likesBeside(1, -1);
+        due("the second one unlike the third, and both unlike it", x.trade(), 1);
+        painting(0, 0, 1);
+    }
+
+    private static void coloursExchanged() {
+        sentence("COLOURS c, d by which u and v are painted anew (each in the other's one)");
+        x.walls(0, 1).people(0, 1).views(0, 10, 1).views(1, 1, 10).neighbours(0, 1).likesBeside(0, -9).likesBeside(1, -9);
+        x.tastes(0, 0, 3).tastes(1, 3, 0);
+        due("trade()", x.trade(), 1);
+        painting(1, 0);
+        due("nothing is left", x.trade(), 0);
+        x.likesBeside(0, 9).likesBeside(1, 9).tastes(0, 0, 0).tastes(1, 0, 0);
+        due("the first alike", x.trade(), 1);
+        painting(0, 0);
     }
 
     private static void firstTrade() {
@@ -309,6 +359,18 @@ public final class TermsThreeTest extends Trial {
         due("too dear", x.hope(0, 1, 2, 6, 0), 1);
     }
 
+    private static void hopeBesideNeighbours() {
+        sentence("WORTH of what comes of it to him (BESIDE of NEIGHBOURS that stay as they are)");
+        x.walls(0, 1, 1).people(0).views(0, 5, 7, 3).neighbours(0, 1).neighbours(0, 2).likesBeside(0, 2);
+        due("less than 16", x.hope(0, 1, 1, 15, 1), 1);
+        due("as dear as 16", x.hope(0, 1, 1, 16, 0), 2);
+        due("more than 16", x.hope(0, 1, 1, 17, 0), 1);
+        due("more than 16", x.hope(0, 1, 1, 17, 1), 0);
+        due("alike no more", x.hope(1, 0, 1, 9, 1), 1);
+        due("alike no more", x.hope(1, 0, 1, 10, 0), 2);
+        due("the wall was not painted", x.colour(0, 0), 0);
+    }
+
     private static void leastAsANumber() {
         sentence("how many; the least as a number");
         x.walls(0).peopleInRow(7);
@@ -341,6 +403,18 @@ public final class TermsThreeTest extends Trial {
         int[] least = {0, 1, 2, 4, 5, 6, 7};
         for (int p = 0; p < 7; p++) due("house of " + p, x.homes(10 + p), least[p]);
         due("nobody moved", x.look(10), 7);
+    }
+
+    private static void housesAtTheEnds() {
+        sentence("HOMES: each another one of the 8 (HOUSES 0 and 7, too)");
+        x.plainWalls(1).people(3, 4).views(0, 9).views(7, 8).tastes(0, 1);
+        due("house of 0", x.homes(10), 0);
+        due("house of 1", x.homes(11), 1);
+        due("sum", x.homes(0), 9);
+        x.tastes(1, 2);
+        due("house of 0", x.homes(10), 7);
+        due("house of 1", x.homes(11), 0);
+        due("sum", x.homes(0), 26);
     }
 
     private static void firstHomes() {
@@ -679,6 +753,9 @@ public final class TermsThreeTest extends Trial {
         tradersGainBoth();
         tradesNeedTwo();
         oneWallAnew();
+        tradesOfNeighbours();
+        tradesBesideAThird();
+        coloursExchanged();
         firstTrade();
         couplesInOrder();
         sevenTrade();
@@ -689,8 +766,10 @@ public final class TermsThreeTest extends Trial {
         howManyMind();
         asDearAsItIsWorth();
         lostFee();
+        hopeBesideNeighbours();
         leastAsANumber();
         homesForAll();
+        housesAtTheEnds();
         firstHomes();
         bothWouldSwap();
         couplesThatSwap();

@@ -434,6 +434,34 @@ public final class TermsTwoTest extends Trial {
         faulty(WHEN + "((((((((not", 3, 21);
     }
 
+    private static void deepestIsJudged() {
+        sentence("eight that are open are judged like one");
+        String inner = "1=2 or 1=1 and 4=1+2*3-9/3";
+        so("1=2 or 1=1 and (".repeat(8) + inner + ")".repeat(8), true);
+        so("1=2 or 1=1 and (".repeat(8) + inner.replace("4=", "5=") + ")".repeat(8), false);
+        so("not ".repeat(8) + "1=1", true);
+        so("not ".repeat(7) + "1=1", false);
+        so("not(".repeat(4) + "1=2 or 1=1" + ")".repeat(4), true);
+        so("not((".repeat(2) + "not(" + inner + ")" + "))".repeat(2), false);
+    }
+
+    private static void fourHundredBytes() {
+        sentence("a TEXT as long as the TAPE may be");
+        String ones = WHEN + "1" + "+1".repeat(190);
+        reads(ones + "=0191;", 1);
+        x.plainWalls(1).people(0).views(0, 1).tastes(0, 0, 1);
+        judged(1);
+        reads(ones + "=0190;", 1);
+        x.plainWalls(1).people(0).views(0, 1).tastes(0, 0, 1);
+        judged(0);
+        faulty(ones + "=00191", 1, 395);
+        faulty(ones + "=19100", 1, 395);
+        faulty(ones + "=0191$", 1, 399);
+        faulty(ones + "+00/0 ", 2, 398);
+        faulty(ones + "+00+0 ", 1, 400);
+        reads("by keep;".repeat(15) + "by keep when 1" + "+1".repeat(129) + "=130  ;", 16);
+    }
+
     private static void closedOnesAreNotOpen() {
         sentence("the 9th ( or not that is open: those that ended are not");
         reads(WHEN + "((((((((1=1)))))))) and ((((((((1=1))))))));", 1);
@@ -639,6 +667,20 @@ public final class TermsTwoTest extends Trial {
         due("a yard less is not", x.gains(0, 0), NONE);
     }
 
+    // By saying -9 of all he would leave each wall to one who sees it, and they would be unlike.
+    private static void saysOneOfTheColours() {
+        sentence("one says of a COLOUR 9 and of all others -9 (of one of the COLOURS that there are)");
+        for (int c = 3; c <= 4; c++) {
+            x = new Counted().ofColours(c).walls(2, 2).people(0, 1, 2).views(0, 10, 10).views(1, 1, 0).views(2, 0, 1).rule("by sum;");
+            x.neighbours(0, 1).likesBeside(0, -9).says(0, 9, -9, -9).says(1, -9, 9, -9).says(2, -9, -9, 9);
+            judged(0, 0);
+            due("gains(0, 0)", x.gains(0, 0), NONE);
+            due("gains(0, 1)", x.gains(0, 1), 0);
+            x.says(0, -9, -9, -9);
+            judged(c == 4 ? 3 : 1, c == 4 ? 3 : 2);
+        }
+    }
+
     private static void gainAboveNothing() {
         sentence("the best saying is the COLOUR with the greatest GAIN (of several the least), if that is above 0");
         x.walls(0).people(0).views(0, 1).rule("by window;");
@@ -704,6 +746,8 @@ public final class TermsTwoTest extends Trial {
         partByNothing();
         seventeenthLine();
         ninthOpen();
+        deepestIsJudged();
+        fourHundredBytes();
         closedOnesAreNotOpen();
         ruleStays();
         someOfIt();
@@ -719,6 +763,7 @@ public final class TermsTwoTest extends Trial {
         turnOfTheOnlyOne();
         allAtOnce();
         saysNineAndMinusNine();
+        saysOneOfTheColours();
         gainAboveNothing();
         gainsOfWhatIsNotSeen();
         finish();
